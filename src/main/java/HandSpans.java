@@ -66,6 +66,7 @@ public final class HandSpans {
     private static final int WHOLE_MOVES = 6;
     private static final int WHOLE_STRUCK = 7;
 
+    // A group of five digits stays below it.
     private static final int GROUP = 100000;
 
     private final Text text = new Text();
@@ -1039,7 +1040,7 @@ public final class HandSpans {
     /** The chords of the music, and the splits that are chosen for them. */
     private static final class Reduction {
         private final Chord[] chords = new Chord[MOST_BEATS];
-        // Stands before beat 0: from a chord without notes no hand moves.
+        // Stands where there is no beat: a chord without notes, from which no hand moves.
         private final Chord silence = new Chord();
         private final int[] splits = new int[MOST_BEATS];
         // For each beat and split, the smallest sum of the costs of all later beats; used in mode 1.
@@ -1059,29 +1060,31 @@ public final class HandSpans {
             }
             lookAhead(state.settingAt(MODE) == 1);
             for (int b = 0; b < beats; b++) {
-                splits[b] = bestSplit(b, chordBefore(b), splitBefore(b));
+                splits[b] = bestSplit(b, chordAt(b - 1), splitAt(b - 1));
             }
         }
 
         private void lookAhead(boolean forTheWhole) {
             // Where nothing ahead counts, the best way for the whole is the one beat by beat: one choice serves both.
             for (int b = beats - 1; b >= 0; b--) {
+                Chord chord = chordAt(b);
                 for (int k = 0; k < SPLITS; k++) {
                     ahead[b][k] = 0;
-                    if (forTheWhole && b < beats - 1 && chords[b].isPossible(k)) {
-                        int best = bestSplit(b + 1, chords[b], k);
-                        ahead[b][k] = chords[b + 1].costs(best, chords[b], k) + ahead[b + 1][best];
+                    if (forTheWhole && b < beats - 1 && chord.isPossible(k)) {
+                        int best = bestSplit(b + 1, chord, k);
+                        ahead[b][k] = chordAt(b + 1).costs(best, chord, k) + ahead[b + 1][best];
                     }
                 }
             }
         }
 
         private int bestSplit(int b, Chord before, int splitBefore) {
+            Chord chord = chordAt(b);
             int best = 0;
             int least = Integer.MAX_VALUE;
             for (int k = 0; k < SPLITS; k++) {
-                if (chords[b].isPossible(k)) {
-                    int costs = chords[b].costs(k, before, splitBefore) + ahead[b][k];
+                if (chord.isPossible(k)) {
+                    int costs = chord.costs(k, before, splitBefore) + ahead[b][k];
                     if (costs < least) {
                         least = costs;
                         best = k;
@@ -1091,28 +1094,28 @@ public final class HandSpans {
             return best;
         }
 
-        private Chord chordBefore(int b) {
-            return b > 0 ? chords[b - 1] : silence;
+        private Chord chordAt(int b) {
+            return b >= 0 && b < beats ? chords[b] : silence;
         }
 
-        private int splitBefore(int b) {
-            return b > 0 ? splits[b - 1] : 0;
+        private int splitAt(int b) {
+            return b >= 0 && b < beats ? splits[b] : 0;
         }
 
         private int cutStaves(int b) {
-            return chords[b].cutStaves(splits[b], chordBefore(b), splitBefore(b));
+            return chordAt(b).cutStaves(splitAt(b), chordAt(b - 1), splitAt(b - 1));
         }
 
         private int move(int h, int b) {
-            return chords[b].move(h, splits[b], chordBefore(b), splitBefore(b));
+            return chordAt(b).move(h, splitAt(b), chordAt(b - 1), splitAt(b - 1));
         }
 
         private int costs(int b) {
-            return chords[b].costs(splits[b], chordBefore(b), splitBefore(b));
+            return chordAt(b).costs(splitAt(b), chordAt(b - 1), splitAt(b - 1));
         }
 
         int numberOfNote(int s, int b, int what) {
-            Chord chord = chords[b];
+            Chord chord = chordAt(b);
             int reason = chord.reasons[s];
             if (reason == NONE || what == NOTE_REASON) {
                 return reason;
@@ -1124,16 +1127,16 @@ public final class HandSpans {
             if (reason != KEPT) {
                 return NONE;
             }
-            if (what == NOTE_HAND) {
-                return (chord.stavesOf(LEFT, splits[b]) >> s & 1) == 1 ? LEFT : RIGHT;
+            if (what == NOTE_STRUCK) {
+                boolean isHold = (chord.held >> s & 1) == 1;
+                return isHold && !cut ? 0 : 1;
             }
-            boolean isHold = (chord.held >> s & 1) == 1;
-            return isHold && !cut ? 0 : 1;
+            return (chord.stavesOf(LEFT, splitAt(b)) >> s & 1) == 1 ? LEFT : RIGHT;
         }
 
         int numberOfHand(int h, int b, int what) {
-            Chord chord = chords[b];
-            int k = splits[b];
+            Chord chord = chordAt(b);
+            int k = splitAt(b);
             switch (what) {
                 case HAND_NOTES:
                     return chord.countOf(h, k);
@@ -1149,10 +1152,10 @@ public final class HandSpans {
         }
 
         int numberOfBeat(int b, int what) {
-            Chord chord = chords[b];
+            Chord chord = chordAt(b);
             switch (what) {
                 case BEAT_SPLIT:
-                    return splits[b];
+                    return splitAt(b);
                 case BEAT_CHOICES:
                     return Integer.bitCount(chord.possible);
                 case BEAT_COSTS:
@@ -1173,14 +1176,14 @@ public final class HandSpans {
         }
 
         private int shareOfBeat(int b, int what) {
-            Chord chord = chords[b];
+            Chord chord = chordAt(b);
             switch (what) {
                 case WHOLE_COSTS:
                     return costs(b);
                 case WHOLE_CUTS:
                     return Integer.bitCount(cutStaves(b));
                 case WHOLE_ROLLED:
-                    return chord.countRolled(splits[b]);
+                    return chord.countRolled(splitAt(b));
                 case WHOLE_MOVES:
                     return move(LEFT, b) + move(RIGHT, b);
                 case WHOLE_STRUCK:

@@ -177,6 +177,9 @@ public final class ActionTest {
         CHECKS.refused("P13 17", STATE, () -> x.insertBeat(0));
         CHECKS.refused("P13 17", STATE, () -> x.insertBeat(16));
         CHECKS.refused("P13 the place is named first", INDEX, () -> x.insertBeat(17));
+        HandSpans y = Scores.of("M203102030405060");
+        y.insertBeat(1);
+        music("P13 the ones behind it move down", y, "M20410-203040-5060");
         CHECKS.due("P13 are remembered", 13, Scores.undoAll(x));
         music("P13 undone", x, "M20330==102030");
     }
@@ -193,7 +196,7 @@ public final class ActionTest {
         CHECKS.due("P14 the last", 2, x.removeBeat(2));
         music("P14 the last", x, "M202--10=");
         x.insertBeat(2);
-        music("P14 a new beat is rests", x, "M203--" + "-10=-");
+        music("P14 a new beat is rests", x, "M203---10=-");
         x.undo();
         x.removeBeat(1);
         CHECKS.refused("P14 the only one", STATE, () -> x.removeBeat(0));

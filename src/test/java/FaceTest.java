@@ -52,7 +52,8 @@ public final class FaceTest {
                         && !Modifier.isStatic(m.getModifiers()));
             }
         }
-        CHECKS.that("the methods are those of the document: " + seen, seen.equals(new TreeSet<>(Arrays.asList(METHODS))));
+        Set<String> due = new TreeSet<>(Arrays.asList(METHODS));
+        CHECKS.that("the methods are those of the document: " + seen, seen.equals(due));
         for (Field f : HandSpans.class.getDeclaredFields()) {
             CHECKS.that("field " + f.getName(), !isSeen(f) || f.getName().equals("NONE"));
         }

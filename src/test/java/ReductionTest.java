@@ -185,6 +185,9 @@ public final class ReductionTest {
         HandSpans other = Scores.of("M30250=28281414");
         beat(other, 1, 2, 1, 5, 3, 4);
         CHECKS.due("P17 only a hold of its own keeps a hand from rolling", 1, other.hand(0, 1, 3));
+        HandSpans leftOut = Scores.of("M302404028=2626");
+        beat(leftOut, 1, 1, 3, 0, 2, 7);
+        CHECKS.due("P18 a hold that is left out does not matter", 2, leftOut.whole(2));
         HandSpans bass = Scores.of("M3025050282820=");
         bass.set(0, 7);
         bass.set(3, 1);
@@ -261,6 +264,13 @@ public final class ReductionTest {
         beat(x, 1, 1, 1, 0, 2, 2);
         whole(x, 0, 0, 0, 0, 0, 0, 0, 3);
         CHECKS.due("P16 the left hand prepares", 0, x.note(0, 0, 0));
+        HandSpans held = Scores.of("M20320=50--20");
+        beat(held, 1, 0, 2, 0, 1, 3);
+        whole(held, 30, 0, 0, 0, 0, 0, 30, 3);
+        held.set(5, 1);
+        beat(held, 0, 1, 2, 0, 1, 3);
+        beat(held, 1, 1, 2, 0, 1, 3);
+        whole(held, 0, 0, 0, 0, 0, 0, 0, 3);
     }
 
     private static void smallestSplitFirst() {

@@ -94,7 +94,7 @@ public final class TextTest {
         errs("M10430=-=", 8);
         errs("M20230==-", 7);
         errs("M20230=30=", -9);
-        errs("M20230-" + "=", 7);
+        errs("M20230-=", 7);
         errs("M202-30=", 7);
         errs("M201-" + (char) 255, 5);
         errs("M416" + "60".repeat(64), -9);
@@ -132,6 +132,7 @@ public final class TextTest {
         x.set(4, 0);
         x.clearText();
         Scores.type(x, "M10230-");
+        x.dearest();
         CHECKS.due("P5 load", 2, x.load());
         CHECKS.that("P5 settings as at first", Scores.seen(x).equals("M10230- 12 12 5 3 1 0"));
         CHECKS.refused("P5 nothing to undo", STATE, x::undo);
@@ -141,8 +142,8 @@ public final class TextTest {
     }
 
     private static void about() {
-        HandSpans x = Scores.of("M30430==-3040-5000---");
-        int[] want = {12, 12, 5, 3, 1, 0, 3, 4, 5, 2};
+        HandSpans x = Scores.of("M30430==-3040-5000=--");
+        int[] want = {12, 12, 5, 3, 1, 0, 3, 4, 5, 3};
         for (int what = 0; what < want.length; what++) {
             CHECKS.due("P6 about(" + what + ")", want[what], x.about(what));
         }

@@ -117,6 +117,12 @@ public final class TrialTest {
         CHECKS.due("P23 a staff of rests", 0, new HandSpans().bestTransposition(0));
         CHECKS.due("P23 nothing to gain", 0, Scores.of("M10230=").bestTransposition(0));
         CHECKS.due("P23 in the range", 0, Scores.of("M1020060").bestTransposition(0));
+        HandSpans down = Scores.of("M202-600000");
+        down.set(2, 1);
+        CHECKS.due("P23 as far down as can be", -60, down.bestTransposition(0));
+        HandSpans up = Scores.of("M2026000-00");
+        up.set(2, 1);
+        CHECKS.due("P23 as far up as can be", 60, up.bestTransposition(1));
     }
 
     private static void fails(HandSpans x, int n, long script, int at) {
@@ -210,6 +216,7 @@ public final class TrialTest {
         fails(x, 2, 6000090000L, NONE);
         HandSpans hold = Scores.of("M10330=-");
         fails(hold, 2, 6000090000L, 1);
+        fails(hold, 2, 6000040100L, 1);
         HandSpans sixteen = Scores.of("M11630" + "=".repeat(15));
         fails(sixteen, 1, 61500, NONE);
         fails(sixteen, 1, 61600, 0);
