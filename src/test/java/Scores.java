@@ -1,5 +1,9 @@
 /** Makes objects of HandSpans with music, and tells all that can be seen of one. */
 final class Scores {
+    /** The text of a full object: it can be loaded, and is none of the music that the tests look at. */
+    static final String OTHER_TEXT = "M1034441=";
+    private static final int FEW_CELLS = 8;
+
     private Scores() {
     }
 
@@ -9,19 +13,46 @@ final class Scores {
         }
     }
 
-    static HandSpans of(String text) {
+    static HandSpans typed(String text) {
         HandSpans x = new HandSpans();
         type(x, text);
+        return x;
+    }
+
+    static HandSpans of(String text) {
+        HandSpans x = typed(text);
         x.load();
         return x;
     }
 
-    /** The music as a text, and the settings. */
-    static String seen(HandSpans x) {
-        StringBuilder told = new StringBuilder("M").append(x.about(6));
-        told.append(x.about(7) / 10).append(x.about(7) % 10);
-        for (int s = 0; s < x.about(6); s++) {
-            for (int b = 0; b < x.about(7); b++) {
+    static HandSpans full(String music) {
+        return full(music, OTHER_TEXT);
+    }
+
+    /** Music with the settings as at first, behind which stand 14 remembered states, two saved ones and another text. */
+    static HandSpans full(String music, String text) {
+        HandSpans x = of(music);
+        x.clearText();
+        type(x, text);
+        for (int slot = 0; slot < 2; slot++) {
+            x.set(1, 20 + slot);
+            x.save(slot);
+        }
+        x.set(1, 12);
+        for (int span = 1; span <= 14; span++) {
+            x.set(0, span);
+        }
+        x.set(0, 12);
+        return x;
+    }
+
+    /** The music as a text. */
+    static String music(HandSpans x) {
+        int staves = x.about(6);
+        int beats = x.about(7);
+        StringBuilder told = new StringBuilder("M").append(staves).append(beats / 10).append(beats % 10);
+        for (int s = 0; s < staves; s++) {
+            for (int b = 0; b < beats; b++) {
                 int v = x.cell(s, b, false);
                 if (v == HandSpans.NONE) {
                     told.append('-');
@@ -32,7 +63,39 @@ final class Scores {
                 }
             }
         }
+        return told.toString();
+    }
+
+    /** The music as a text, and the settings. */
+    static String seen(HandSpans x) {
+        StringBuilder told = new StringBuilder(music(x));
         for (int what = 0; what < 6; what++) {
+            told.append(' ').append(x.about(what));
+        }
+        return told.toString();
+    }
+
+    /** All that an object holds: what is seen, the text, what can be taken back, the slots. It is used up by it. */
+    static String usedUp(HandSpans x) {
+        StringBuilder told = new StringBuilder(seen(x)).append("; the text errs at ").append(x.errorPosition());
+        String back = Checks.outcome(x::undo);
+        while (back.startsWith("answers")) {
+            told.append("; undo ").append(back).append(": ").append(inBrief(x));
+            back = Checks.outcome(x::undo);
+        }
+        told.append("; slot 0 ").append(Checks.outcome(() -> x.restore(0))).append(": ").append(inBrief(x));
+        told.append("; slot 1 ").append(Checks.outcome(() -> x.restore(1))).append(": ").append(inBrief(x));
+        told.append("; load ").append(Checks.outcome(x::load)).append(": ").append(inBrief(x));
+        return told.append("; length of the text ").append(x.clearText()).toString();
+    }
+
+    /** An object may be used for 512 calls: so the cells are told of small music alone. */
+    private static String inBrief(HandSpans x) {
+        if (x.about(6) * x.about(7) <= FEW_CELLS) {
+            return seen(x);
+        }
+        StringBuilder told = new StringBuilder();
+        for (int what = 0; what <= 9; what++) {
             told.append(' ').append(x.about(what));
         }
         return told.toString();
