@@ -44,6 +44,7 @@ public final class ActionEdgesTest {
         undoNothing();
         actionsWithoutEffect();
         actionsOfEachKind();
+        undoneSettings();
         callsThatAreNoActions();
         notPartOfTheState();
         fiveHundredAndTwelveCalls();
@@ -163,8 +164,8 @@ public final class ActionEdgesTest {
     }
 
     private static void writeRefusalsInOrder() {
-        CHECKS.sentence("EXCEPTIONS", "If several exceptions apply to a call, the one that its description names first "
-                + "is thrown: write");
+        CHECKS.sentence("EXCEPTIONS", "If several exceptions apply to a call, the one that its description names "
+                + "first is thrown: write");
         for (int v : new int[] {61, -2, 99, LEAST}) {
             CHECKS.refusedIn(SMALL, "no staff, and v", INDEX, x -> x.write(2, 0, v));
             CHECKS.refusedIn(SMALL, "no staff, and v", INDEX, x -> x.write(-1, 0, v));
@@ -185,7 +186,8 @@ public final class ActionEdgesTest {
     }
 
     private static void looseHolds() {
-        CHECKS.sentence("ACTIONS AND UNDO", "every hold that follows a rest or is in beat 0 becomes a rest, from beat 0 on");
+        CHECKS.sentence("ACTIONS AND UNDO", "every hold that follows a rest or is in beat 0 becomes a rest, from "
+                + "beat 0 on");
         String held = "M11630" + "=".repeat(15);
         done(held, "write(0,0,-1)", 30, "M116" + "-".repeat(16), x -> x.write(0, 0, -1));
         done(held, "write(0,14,-1)", 99, "M11630" + "=".repeat(13) + "--", x -> x.write(0, 14, -1));
@@ -201,7 +203,8 @@ public final class ActionEdgesTest {
     }
 
     private static void holdsThatStay() {
-        CHECKS.sentence("ACTIONS AND UNDO", "every hold that follows a rest or is in beat 0 becomes a rest: no other one");
+        CHECKS.sentence("ACTIONS AND UNDO", "every hold that follows a rest or is in beat 0 becomes a rest: no "
+                + "other one");
         done("M10430===", "write(0,0,31)", 30, "M10431===", x -> x.write(0, 0, 31));
         done("M10430===", "write(0,1,31)", 99, "M1043031==", x -> x.write(0, 1, 31));
         done("M10530=40==", "write(0,2,99)", 40, "M10530====", x -> x.write(0, 2, 99));
@@ -258,8 +261,8 @@ public final class ActionEdgesTest {
     }
 
     private static void transposeRefusalsInOrder() {
-        CHECKS.sentence("EXCEPTIONS", "If several exceptions apply to a call, the one that its description names first "
-                + "is thrown: transpose");
+        CHECKS.sentence("EXCEPTIONS", "If several exceptions apply to a call, the one that its description names "
+                + "first is thrown: transpose");
         for (int by : new int[] {-61, 61, LEAST, MOST}) {
             CHECKS.refusedIn(SMALL, "no staff, and by", INDEX, x -> x.transpose(2, by));
             CHECKS.refusedIn(SMALL, "no staff, and by", INDEX, x -> x.transpose(-1, by));
@@ -299,7 +302,8 @@ public final class ActionEdgesTest {
     private static void exchangeAnswers() {
         CHECKS.sentence("P11", "Returns the number of beats in which their cells differ, as they are written.");
         String all = "M216" + "30".repeat(16);
-        done(all + "-".repeat(16), "in all beats", 16, "M216" + "-".repeat(16) + "30".repeat(16), x -> x.exchange(0, 1));
+        done(all + "-".repeat(16), "in all beats", 16, "M216" + "-".repeat(16) + "30".repeat(16),
+                x -> x.exchange(0, 1));
         done(all + "30".repeat(15) + "-", "in the last beat", 1, "M216" + "30".repeat(15) + "-" + "30".repeat(16),
                 x -> x.exchange(0, 1));
         done(all + "30".repeat(16), "in no beat", 0, all + "30".repeat(16), x -> x.exchange(1, 0));
@@ -323,7 +327,7 @@ public final class ActionEdgesTest {
         CHECKS.refusedIn(FULL_SCORE, "staff(true)", STATE, x -> x.staff(true));
         CHECKS.refusedIn(ONE, "staff(false)", STATE, x -> x.staff(false));
         CHECKS.refusedIn("M116" + "30".repeat(16), "staff(false)", STATE, x -> x.staff(false));
-        CHECKS.sentence("P12", "Adds a staff of rests behind the last one, or removes the last one. "
+        CHECKS.sentence("P12", "Adds a staff of rests behind the last one ... or removes the last one. ... "
                 + "Returns the number of staves then.");
         done("M10110", "staff(true)", 2, "M20110-", x -> x.staff(true));
         done("M2011020", "staff(true)", 3, "M3011020-", x -> x.staff(true));
@@ -383,8 +387,8 @@ public final class ActionEdgesTest {
             CHECKS.refusedIn("M116" + "30".repeat(16), "insertBeat(" + b + ")", STATE, x -> x.insertBeat(b));
         }
         CHECKS.refusedIn(FULL_SCORE, "insertBeat(16)", STATE, x -> x.insertBeat(16));
-        CHECKS.sentence("EXCEPTIONS", "If several exceptions apply to a call, the one that its description names first "
-                + "is thrown: insertBeat");
+        CHECKS.sentence("EXCEPTIONS", "If several exceptions apply to a call, the one that its description names "
+                + "first is thrown: insertBeat");
         for (int b : new int[] {-1, 17, LEAST, MOST}) {
             CHECKS.refusedIn(FULL_SCORE, "insertBeat(" + b + ")", INDEX, x -> x.insertBeat(b));
         }
@@ -424,15 +428,15 @@ public final class ActionEdgesTest {
         CHECKS.refusedIn(ONE, "removeBeat(0)", STATE, x -> x.removeBeat(0));
         CHECKS.refusedIn("M40110203040", "removeBeat(0)", STATE, x -> x.removeBeat(0));
         CHECKS.refusedBy(HandSpans::new, "removeBeat(0)", STATE, x -> x.removeBeat(0));
-        CHECKS.sentence("EXCEPTIONS", "If several exceptions apply to a call, the one that its description names first "
-                + "is thrown: removeBeat");
+        CHECKS.sentence("EXCEPTIONS", "If several exceptions apply to a call, the one that its description names "
+                + "first is thrown: removeBeat");
         for (int b : new int[] {-1, 1, LEAST, MOST}) {
             CHECKS.refusedIn(ONE, "removeBeat(" + b + ")", INDEX, x -> x.removeBeat(b));
         }
     }
 
     private static void removedBeat() {
-        CHECKS.sentence("P14", "Removes a beat; the ones behind it move up. Returns the number of beats then.");
+        CHECKS.sentence("P14", "Removes a beat; the ones behind it move up. ... Returns the number of beats then.");
         StringBuilder rising = new StringBuilder();
         for (int b = 0; b < 16; b++) {
             rising.append(10 + b);
@@ -469,8 +473,8 @@ public final class ActionEdgesTest {
     }
 
     private static void undoForgets() {
-        CHECKS.sentence("ACTIONS AND UNDO", "At most 14 states are remembered; when one more is remembered, the oldest "
-                + "one is forgotten.");
+        CHECKS.sentence("ACTIONS AND UNDO", "At most 14 states are remembered; when one more is remembered, the "
+                + "oldest one is forgotten.");
         for (int actions = 14; actions <= 45; actions++) {
             HandSpans x = acted(actions);
             for (int left = 13; left >= 0; left--) {
@@ -525,7 +529,8 @@ public final class ActionEdgesTest {
     }
 
     private static void actionsOfEachKind() {
-        CHECKS.sentence("ACTIONS AND UNDO", "Before each action, the state is remembered: the music and the settings");
+        CHECKS.sentence("ACTIONS AND UNDO", "Before each action, the state is remembered: the music and the "
+                + "settings");
         HandSpans x = Scores.of("M2023040--");
         String[] seen = new String[8];
         Checks.Deed[] deeds = {y -> y.set(2, 4), y -> y.write(0, 0, 31), y -> y.transpose(0, 3), y -> y.exchange(0, 1),
@@ -540,8 +545,24 @@ public final class ActionEdgesTest {
         }
     }
 
+    private static void undoneSettings() {
+        CHECKS.sentence("ACTIONS AND UNDO", "the state, which consists of the music and the settings: each of them");
+        int[] other = {3, 4, 2, 7, 0, 1};
+        for (int what = 0; what < other.length; what++) {
+            HandSpans x = Scores.of(SMALL);
+            x.set(what, other[what]);
+            String changed = Scores.seen(x);
+            x.set(what, HIGH[what] - LOW[what] == 1 ? 1 - other[what] : HIGH[what]);
+            x.undo();
+            CHECKS.due("setting " + what + " taken back", changed, Scores.seen(x));
+            x.undo();
+            CHECKS.due("setting " + what + " as at first", SMALL + " 12 12 5 3 1 0", Scores.seen(x));
+        }
+    }
+
     private static void callsThatAreNoActions() {
-        CHECKS.sentence("ACTIONS AND UNDO", "Each call of one of them is an action (undo is none): no other call");
+        CHECKS.sentence("ACTIONS AND UNDO", "Each call of one of them ... is an action ... (undo is none): no "
+                + "other call");
         HandSpans x = Scores.of("M20230404050");
         x.write(0, 0, 31);
         x.write(0, 0, 32);
@@ -602,7 +623,8 @@ public final class ActionEdgesTest {
         CHECKS.due("the last call", 0, asked.whatIf(5, 1, 0));
         HandSpans typed = new HandSpans();
         for (int call = 1; call < 512; call++) {
-            CHECKS.due("call " + call, call % 128, call % 128 == 0 ? 127 - typed.clearText() : typed.append(call % 256));
+            boolean clear = call % 128 == 0;
+            CHECKS.due("call " + call, clear ? 127 : call % 128, clear ? typed.clearText() : typed.append(call % 256));
         }
         CHECKS.due("the last call", 127, typed.clearText());
     }

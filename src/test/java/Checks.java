@@ -20,7 +20,7 @@ final class Checks {
     private int passed;
     private int failed;
 
-    /** What is checked from here on: the promise, and the words of the document. */
+    /** What is checked from here on: the promise and the words of the document, and behind a colon what of them. */
     void sentence(String promise, String words) {
         sentence = promise + " '" + words + "': ";
     }

@@ -1,4 +1,4 @@
-/** Promises 16 to 19, with the descriptions of notes and splits: each sentence with an edge, just inside and outside. */
+/** Promises 16 to 19, with the descriptions of notes and splits: each sentence with an edge, inside it and outside. */
 public final class ReductionEdgesTest {
     private static final Checks CHECKS = new Checks();
     private static final Class<IllegalArgumentException> ARGUMENT = IllegalArgumentException.class;
@@ -37,6 +37,7 @@ public final class ReductionEdgesTest {
         alwaysASplit();
         cutBehindLeftOutNotes();
         cutByTheOtherHand();
+        cutWhereTheSplitIsAnother();
         notCut();
         positions();
         moves();
@@ -45,6 +46,7 @@ public final class ReductionEdgesTest {
         beatByBeat();
         forTheWhole();
         smallestSplitsFirst();
+        askedAgain();
         notePlaces();
         noteNumbers();
         handPlaces();
@@ -107,7 +109,8 @@ public final class ReductionEdgesTest {
     }
 
     private static void order() {
-        CHECKS.sentence("NOTES OF A BEAT", "gone through in this order: melody, bass, then the inner staves, ascending");
+        CHECKS.sentence("NOTES OF A BEAT", "gone through in this order: melody, bass, then the inner staves, "
+                + "ascending");
         reasons(with("M40144333330"), 0, 0, 0, 1, 0);
         reasons(with("M40142334530"), 0, 0, 0, 2, 0);
         reasons(with("M40142453330"), 0, 0, 0, 2, 0);
@@ -183,8 +186,8 @@ public final class ReductionEdgesTest {
     // ---- splits and hands
 
     private static void orderOfKeptNotes() {
-        CHECKS.sentence("NOTES OF A BEAT", "ordered by pitch, the lowest one first; of equal ones that of the greater "
-                + "staff comes first");
+        CHECKS.sentence("NOTES OF A BEAT", "ordered by pitch, the lowest one first; of equal ones that of the "
+                + "greater staff comes first");
         HandSpans equal = with("M2013030", FINGERS, 1);
         note(equal, 0, 0, 1, 0, 1, 0);
         note(equal, 1, 0, 0, 0, 1, 0);
@@ -207,8 +210,8 @@ public final class ReductionEdgesTest {
     }
 
     private static void splits() {
-        CHECKS.sentence("NOTES OF A BEAT", "A split k gives the first k of them to the left hand, the others to the "
-                + "right hand: k from 0 to the number of kept notes");
+        CHECKS.sentence("NOTES OF A BEAT", "A split k gives the first k of them to the left hand ..., the others "
+                + "to the right hand: k from 0 to the number of kept notes");
         beat(with("M101-"), 0, 0, 1, 0, 0, 1);
         beat(with("M10130"), 0, 0, 2, 0, 1, 3);
         beat(with("M2013031"), 0, 0, 3, 0, 2, 7);
@@ -247,8 +250,8 @@ public final class ReductionEdgesTest {
             CHECKS.due("no note", 1, with("M101-", FINGERS, fingers).beat(0, 4));
             CHECKS.due("kept of four", fingers == 1 ? 2 : 4, with("M40130313233", FINGERS, fingers).beat(0, 3));
         }
-        CHECKS.sentence("NOTES OF A BEAT", "at most as many as it has fingers with a width of at most its span plus the "
-                + "reach of rolls");
+        CHECKS.sentence("NOTES OF A BEAT", "at most as many as it has fingers with a width of at most its span "
+                + "plus the reach of rolls");
         CHECKS.due("three notes, a width of 14", 15, with("M301301716", FINGERS, 3).beat(0, 4));
         CHECKS.due("two fingers for them", 6, with("M301301716", FINGERS, 2, SPAN_RIGHT, 13).beat(0, 4));
     }
@@ -258,8 +261,8 @@ public final class ReductionEdgesTest {
     }
 
     private static void spansOfTwoNotes() {
-        CHECKS.sentence("NOTES OF A BEAT", "its width is at most its span; or ... with a width of at most its span plus "
-                + "the reach of rolls");
+        CHECKS.sentence("NOTES OF A BEAT", "its width is at most its span; or ... with a width of at most its "
+                + "span plus the reach of rolls");
         int[] spans = {1, 2, 11, 12, 23, 24};
         for (int left : spans) {
             for (int right : spans) {
@@ -347,8 +350,8 @@ public final class ReductionEdgesTest {
     }
 
     private static void holdOfTheOtherHand() {
-        CHECKS.sentence("NOTES OF A BEAT", "none of their cells: a hold of the other hand, or one that is left out, "
-                + "does not matter");
+        CHECKS.sentence("NOTES OF A BEAT", "none of their cells: a hold of the other hand, or one that is left "
+                + "out, does not matter");
         HandSpans right = with("M30260=23231010", OCTAVES, 0, SPAN_RIGHT, 1);
         CHECKS.due("the left hand rolls below a hold", 1, right.hand(0, 1, 3));
         CHECKS.due("its note is kept", 0, right.note(1, 1, 1));
@@ -380,8 +383,8 @@ public final class ReductionEdgesTest {
     }
 
     private static void leftOutForReasonThree() {
-        CHECKS.sentence("NOTES OF A BEAT", "As long as no split is possible, the kept inner note of the greatest staff "
-                + "is left out for the reason 3.");
+        CHECKS.sentence("NOTES OF A BEAT", "As long as no split is possible, the kept inner note of the greatest "
+                + "staff is left out for the reason 3.");
         int[] narrow = {SPAN_LEFT, 5, SPAN_RIGHT, 5, REACH, 0};
         reasons(with("M40150483010", narrow), 0, 0, 0, 3, 0);
         reasons(with("M40150304810", narrow), 0, 0, 3, 3, 0);
@@ -399,7 +402,8 @@ public final class ReductionEdgesTest {
     }
 
     private static void doublingsStayOut() {
-        CHECKS.sentence("NOTES OF A BEAT", "the kept inner note of the greatest staff: not one that is left out already");
+        CHECKS.sentence("NOTES OF A BEAT", "the kept inner note of the greatest staff: not one that is left out "
+                + "already");
         reasons(with("M40150303010", FINGERS, 1), 0, 0, 3, 1, 0);
         reasons(with("M40150304210", FINGERS, 1), 0, 0, 3, 2, 0);
         reasons(with("M40150305010", FINGERS, 1), 0, 0, 3, 1, 0);
@@ -421,8 +425,8 @@ public final class ReductionEdgesTest {
     // ---- ties, moves, costs
 
     private static void cutBehindLeftOutNotes() {
-        CHECKS.sentence("SPLITS", "A tie is cut at a hold that is kept if the note of its staff was left out in the beat "
-                + "before");
+        CHECKS.sentence("SPLITS", "A tie is cut at a hold that is kept if the note of its staff was left out in "
+                + "the beat before");
         HandSpans one = with("M302404540=2020");
         note(one, 1, 0, NONE, 1, NONE, 0);
         note(one, 1, 1, 1, 0, 1, 1);
@@ -463,6 +467,21 @@ public final class ReductionEdgesTest {
         CHECKS.due("cut ties", 2, again.whole(4));
     }
 
+    private static void cutWhereTheSplitIsAnother() {
+        CHECKS.sentence("SPLITS", "or was played by the other hand there: by the split there, not by that of the "
+                + "hold");
+        HandSpans x = with("M202405030=");
+        CHECKS.due("the split before: all to the right hand", 0, x.beat(0, 0));
+        beat(x, 1, 1, 1, 10 + 20, 2, 2);
+        note(x, 1, 1, 0, 0, 1, 1);
+        note(x, 0, 1, 1, 0, 1, 0);
+        wholes(x, 30, 0, 0, 0, 1, 0, 20, 4);
+        HandSpans kept = with("M20240=3020");
+        CHECKS.due("the split before: all to the right hand", 0, kept.beat(0, 0));
+        beat(kept, 1, 1, 1, 10, 2, 2);
+        note(kept, 0, 1, 1, 0, 0, 0);
+    }
+
     private static void notCut() {
         CHECKS.sentence("SPLITS", "A tie is cut at a hold that is kept: else it is not");
         HandSpans held = with("M20340==2030-", FINGERS, 1);
@@ -492,7 +511,8 @@ public final class ReductionEdgesTest {
     }
 
     private static void moves() {
-        CHECKS.sentence("SPLITS", "the difference (without sign) of its positions in this beat and in the beat before");
+        CHECKS.sentence("SPLITS", "the difference (without sign) of its positions in this beat and in the beat "
+                + "before");
         HandSpans up = with("M20200600000", FINGERS, 1);
         hand(up, 1, 1, 1, 60, 0, 0, 60);
         hand(up, 0, 1, 1, 0, 0, 0, 0);
@@ -541,8 +561,8 @@ public final class ReductionEdgesTest {
     }
 
     private static void beatByBeat() {
-        CHECKS.sentence("SPLITS", "In mode 0, the splits are chosen beat by beat, from beat 0 on: the possible one with "
-                + "the smallest costs of the beat, among several the smallest one.");
+        CHECKS.sentence("SPLITS", "In mode 0, the splits are chosen beat by beat, from beat 0 on: the possible "
+                + "one with the smallest costs of the beat, among several the smallest one.");
         HandSpans x = with("M2022050-20");
         beat(x, 0, 0, 2, 0, 1, 3);
         beat(x, 1, 1, 1, 30, 2, 2);
@@ -555,8 +575,8 @@ public final class ReductionEdgesTest {
     }
 
     private static void forTheWhole() {
-        CHECKS.sentence("SPLITS", "In mode 1, the possible splits are chosen so that the sum of the costs of all beats is "
-                + "smallest");
+        CHECKS.sentence("SPLITS", "In mode 1, the possible splits are chosen so that the sum of the costs of all "
+                + "beats is smallest");
         HandSpans x = with("M2022050-20", MODE, 1);
         beat(x, 0, 1, 2, 0, 1, 3);
         beat(x, 1, 1, 1, 0, 2, 2);
@@ -572,7 +592,8 @@ public final class ReductionEdgesTest {
     }
 
     private static void smallestSplitsFirst() {
-        CHECKS.sentence("SPLITS", "among several ways with the smallest split of beat 0, then of beat 1, and so on");
+        CHECKS.sentence("SPLITS", "among several ways with the smallest split of beat 0, then of beat 1, and so "
+                + "on");
         way("M103202020", 0, 0, 0);
         way("M103202021", 0, 0, 1);
         way("M103202120", 0, 1, 0);
@@ -588,6 +609,34 @@ public final class ReductionEdgesTest {
         for (int b = 0; b < splits.length; b++) {
             CHECKS.due(music + ", split of beat " + b, splits[b], x.beat(b, 0));
         }
+    }
+
+    private static void askedAgain() {
+        CHECKS.sentence("NOTES OF A BEAT", "(0 without notes): also where there were notes when it was asked "
+                + "before");
+        HandSpans x = with("M40160402000");
+        beat(x, 0, 1, 1, 0, 2, 2);
+        x.write(0, 0, 31);
+        x.write(1, 0, -1);
+        x.write(2, 0, -1);
+        x.write(3, 0, 30);
+        beat(x, 0, 0, 3, 0, 2, 7);
+        hand(x, 0, 0, 0, NONE, 0, 0, 0);
+        x.write(0, 0, -1);
+        x.write(3, 0, -1);
+        beat(x, 0, 0, 1, 0, 0, 1);
+        hand(x, 1, 0, 0, NONE, 0, 0, 0);
+        CHECKS.sentence("SPLITS", "the sum of the costs of all beats is smallest: of the beats that are there "
+                + "then");
+        HandSpans leap = with("M20320=50--20", MODE, 1);
+        CHECKS.due("split of beat 0", 1, leap.beat(0, 0));
+        leap.removeBeat(2);
+        CHECKS.due("split of beat 0", 0, leap.beat(0, 0));
+        CHECKS.due("split of beat 1", 0, leap.beat(1, 0));
+        leap.undo();
+        CHECKS.due("split of beat 1", 1, leap.beat(1, 0));
+        leap.set(MODE, 0);
+        CHECKS.due("split of beat 1", 0, leap.beat(1, 0));
     }
 
     // ---- promise 16
@@ -618,13 +667,15 @@ public final class ReductionEdgesTest {
             int what = i;
             CHECKS.toldIn("M20230=-40", "note(1,0," + what + ")", NONE, x -> x.note(1, 0, what));
         }
-        CHECKS.sentence("P16", "2: 1 if it is struck, also after a cut tie, 0 if it is held (NONE if it is left out)");
+        CHECKS.sentence("P16", "2: 1 if it is struck, also after a cut tie, 0 if it is held (NONE if it is left "
+                + "out)");
         CHECKS.toldIn("M20230=-40", "struck", 1, x -> x.note(0, 0, 2));
         CHECKS.toldIn("M20230=-40", "held", 0, x -> x.note(0, 1, 2));
         CHECKS.toldIn("M302404540=2020", "cut", 1, x -> x.note(1, 1, 2));
         CHECKS.toldIn("M302404540=2020", "left out", NONE, x -> x.note(1, 0, 2));
         CHECKS.toldIn("M302404040=2020", "held, and left out", NONE, x -> x.note(1, 1, 2));
-        CHECKS.sentence("P16", "3: 1 if its tie is cut, 0 if not (also for a struck note, and for one that is left out)");
+        CHECKS.sentence("P16", "3: 1 if its tie is cut, 0 if not (also for a struck note, and for one that is "
+                + "left out)");
         CHECKS.toldIn("M20230=-40", "struck", 0, x -> x.note(0, 0, 3));
         CHECKS.toldIn("M20230=-40", "held", 0, x -> x.note(0, 1, 3));
         CHECKS.toldIn("M302404540=2020", "cut", 1, x -> x.note(1, 1, 3));
@@ -661,7 +712,8 @@ public final class ReductionEdgesTest {
     }
 
     private static void handNumbers() {
-        CHECKS.sentence("P17", "1: its position (NONE without notes); 2: its width; 3: 1 if it is rolled, 0 if not");
+        CHECKS.sentence("P17", "1: its position (NONE without notes); 2: its width; 3: 1 if it is rolled, 0 if "
+                + "not");
         int[] without = {0, NONE, 0, 0, 0};
         int[] full = {4, 30, 3, 0, 0};
         int[] lowest = {1, 0, 0, 0, 0};
@@ -701,8 +753,8 @@ public final class ReductionEdgesTest {
     }
 
     private static void beatNumbers() {
-        CHECKS.sentence("P18", "0: its split; 1: the number of possible splits; 2: its costs; 3: the number of notes that "
-                + "are kept; 4: the set of the possible splits, as a bit set");
+        CHECKS.sentence("P18", "0: its split; 1: the number of possible splits; 2: its costs; 3: the number of "
+                + "notes that are kept; 4: the set of the possible splits, as a bit set");
         int[] rest = {0, 1, 0, 0, 1};
         int[] chord = {0, 5, 0, 4, 31};
         int[] octaves = {0, 3, 0, 2, 7};

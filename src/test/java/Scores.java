@@ -29,7 +29,7 @@ final class Scores {
         return full(music, OTHER_TEXT);
     }
 
-    /** Music with the settings as at first, behind which stand 14 remembered states, two saved ones and another text. */
+    /** Music with the settings as at first, and behind it 14 remembered states, two saved ones and another text. */
     static HandSpans full(String music, String text) {
         HandSpans x = of(music);
         x.clearText();

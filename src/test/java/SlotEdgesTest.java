@@ -65,7 +65,7 @@ public final class SlotEdgesTest {
     }
 
     private static void saveChangesNothingElse() {
-        CHECKS.sentence("ACTIONS AND UNDO", "Each call of one of them is an action: save is none");
+        CHECKS.sentence("ACTIONS AND UNDO", "Each call of one of them ... is an action: save is none");
         HandSpans x = Scores.full(SMALL);
         HandSpans other = Scores.full(SMALL);
         x.save(1);
@@ -99,8 +99,8 @@ public final class SlotEdgesTest {
         CHECKS.sentence("P27", "Throws IndexOutOfBoundsException if there is no such save slot");
         for (int slot : NO_SLOTS) {
             CHECKS.refusedIn(SMALL, "restore(" + slot + ")", INDEX, x -> x.restore(slot));
-            CHECKS.sentence("EXCEPTIONS", "If several exceptions apply to a call, the one that its description names "
-                    + "first is thrown: restore");
+            CHECKS.sentence("EXCEPTIONS", "If several exceptions apply to a call, the one that its description "
+                    + "names first is thrown: restore");
             CHECKS.refusedBy(HandSpans::new, "restore(" + slot + ")", INDEX, x -> x.restore(slot));
         }
     }
@@ -146,7 +146,8 @@ public final class SlotEdgesTest {
     }
 
     private static void restoreReplacesAll() {
-        CHECKS.sentence("P27", "Replaces the state by the one in a save slot. Returns the number of beats then.");
+        CHECKS.sentence("P27", "Replaces the state by the one in a save slot ... Returns the number of beats "
+                + "then.");
         HandSpans small = new HandSpans();
         small.save(1);
         small.staff(true);

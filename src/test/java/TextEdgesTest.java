@@ -1,4 +1,4 @@
-/** Promises 1 to 7, with the descriptions of music and text: each sentence with an edge, just inside it and just outside. */
+/** Promises 1 to 7, with the descriptions of music and text: each sentence with an edge, inside it and outside. */
 public final class TextEdgesTest {
     private static final Checks CHECKS = new Checks();
     private static final Class<IllegalArgumentException> ARGUMENT = IllegalArgumentException.class;
@@ -142,7 +142,8 @@ public final class TextEdgesTest {
     }
 
     private static void refusalsOfAppend() {
-        CHECKS.sentence("P2", "the argument is named before the full text");
+        CHECKS.sentence("EXCEPTIONS", "If several exceptions apply to a call, the one that its description names "
+                + "first is thrown: append");
         for (int c : new int[] {-1, 256, LEAST, MOST}) {
             CHECKS.refusedBy(() -> longText("M210", 140), "append(" + c + ")", ARGUMENT, y -> y.append(c));
             CHECKS.refusedBy(() -> longText("M210", 139), "append(" + c + ")", ARGUMENT, y -> y.append(c));
@@ -234,7 +235,7 @@ public final class TextEdgesTest {
     }
 
     private static void textThatGoesOn() {
-        CHECKS.sentence("P4", "the error position of the text, if there is more behind the last cell");
+        CHECKS.sentence("P4", "Returns the error position of the text: there is more behind the last cell");
         onlyThese("M101-", "");
         onlyThese("M10160", "");
         onlyThese("M20230=4044", "");
@@ -291,7 +292,7 @@ public final class TextEdgesTest {
     }
 
     private static void loadReplacesAll() {
-        CHECKS.sentence("P5", "Replaces the music by that of the text. Returns the number of beats.");
+        CHECKS.sentence("P5", "Replaces the music by that of the text ... Returns the number of beats.");
         HandSpans x = Scores.typed(FULL_SCORE);
         CHECKS.due("the greatest music", 16, x.load());
         CHECKS.due("the greatest music", FULL_SCORE, Scores.music(x));
@@ -420,8 +421,8 @@ public final class TextEdgesTest {
     }
 
     private static void longestHold() {
-        CHECKS.sentence("MUSIC", "A hold continues the note of its staff in the beat before, struck or held, "
-                + "and has its pitch.");
+        CHECKS.sentence("MUSIC", "A hold continues the note of its staff in the beat before, struck or held, and "
+                + "has its pitch.");
         HandSpans x = Scores.of("M216" + ("17" + "=".repeat(15)) + ("00" + "=".repeat(15)));
         for (int b = 0; b < 16; b++) {
             CHECKS.due("its pitch in beat " + b, 17, x.cell(0, b, true));

@@ -19,7 +19,14 @@ public final class TrialEdgesTest {
     private static final long TIMES = 6364136223846793005L;
     private static final long PLUS = 1442695040888963407L;
 
+    private static final Checks.Deed[] ASKS = {x -> x.whatIf(0, 3, 0), x -> x.whatIf(5, 1, 0), x -> x.whatIf(4, 0, 7),
+        x -> x.whatIf(2, 1, 6), HandSpans::smallestSpan, HandSpans::dearest, x -> x.bestTransposition(0),
+        x -> x.bestTransposition(1), x -> x.runScript(3, 150001200160000L), x -> x.runScript(3, 200413010050010L),
+        x -> x.simulate(7, 40), x -> x.simulate(-7, 1), x -> x.simulate(11, 2)};
+
     public static void main(String[] args) {
+        asksChangeNothing();
+        asksAreOfThePresentState();
         whatIfRange();
         whatIfNumbers();
         smallestOfSpans();
@@ -41,12 +48,14 @@ public final class TrialEdgesTest {
         wholeCommands();
         handCommands();
         reasonCommands();
+        looseHolds();
         otherGroups();
         allGroups();
         allEffects();
         roundsRange();
         oneRound();
         allRounds();
+        roundsWithHolds();
         roundsAdded();
         CHECKS.close();
     }
@@ -59,11 +68,68 @@ public final class TrialEdgesTest {
         return x;
     }
 
+    // ---- promises 20 to 25
+
+    private static void asksChangeNothing() {
+        CHECKS.sentence("P20 to P25", "all following methods up to the save slots change nothing");
+        for (int i = 0; i < ASKS.length; i++) {
+            HandSpans asked = withOtherSettings();
+            ASKS[i].on(asked);
+            ASKS[i].on(asked);
+            CHECKS.due("all that is there after call " + i, Scores.usedUp(withOtherSettings()), Scores.usedUp(asked));
+        }
+    }
+
+    private static void asksAreOfThePresentState() {
+        CHECKS.sentence("P20 to P25", "on a copy of the state: of the present one, whatever was asked before");
+        for (String music : new String[] {LEAP, "M302404540=2022", "M40250=48=30311012", "M20320=50--20"}) {
+            HandSpans asked = written(music);
+            for (int i = 0; i < 3 * ASKS.length; i++) {
+                // In steps of 7 all of them come, each behind the traces of others than its neighbours.
+                Checks.Deed ask = ASKS[i * 7 % ASKS.length];
+                CHECKS.due(music + ", call " + i, ask.on(Scores.of(music)), ask.on(asked));
+            }
+            asked.set(FINGERS, 1);
+            for (int i = 0; i < ASKS.length; i++) {
+                long want = ASKS[i].on(with(music, FINGERS, 1));
+                CHECKS.due(music + " with one finger, call " + i, want, ASKS[i].on(asked));
+            }
+        }
+    }
+
+    /** The music made by actions: no text was ever read for it. */
+    private static HandSpans written(String music) {
+        HandSpans score = Scores.of(music);
+        HandSpans x = new HandSpans();
+        for (int s = 1; s < score.about(6); s++) {
+            x.staff(true);
+        }
+        for (int b = 1; b < score.about(7); b++) {
+            x.insertBeat(b);
+        }
+        for (int s = 0; s < score.about(6); s++) {
+            for (int b = 0; b < score.about(7); b++) {
+                int v = score.cell(s, b, false);
+                x.write(s, b, v == NONE ? -1 : v);
+            }
+        }
+        return x;
+    }
+
+    private static HandSpans withOtherSettings() {
+        HandSpans x = Scores.full("M302404540=2022");
+        int[] other = {9, 8, 3, 5, 0, 1};
+        for (int what = 0; what < other.length; what++) {
+            x.set(what, other[what]);
+        }
+        return x;
+    }
+
     // ---- promise 20
 
     private static void whatIfRange() {
-        CHECKS.sentence("P20", "Throws IllegalArgumentException if what is not 0 to 5, v is out of range, "
-                + "or of is not 0 to 7");
+        CHECKS.sentence("P20", "Throws IllegalArgumentException if what is not 0 to 5, v is out of range, or of "
+                + "is not 0 to 7");
         for (int w = 0; w < 6; w++) {
             int what = w;
             for (int v : new int[] {LOW[w] - 1, HIGH[w] + 1, LEAST, MOST}) {
@@ -141,7 +207,7 @@ public final class TrialEdgesTest {
     }
 
     private static void spansOfBothHands() {
-        CHECKS.sentence("P21", "with which, as the span of both hands; with all other settings as they are");
+        CHECKS.sentence("P21", "with all other settings as they are ... as the span of both hands");
         int[][] spans = {{1, 1}, {24, 1}, {1, 24}, {24, 24}};
         for (int[] pair : spans) {
             HandSpans x = with("M301403320", SPAN_LEFT, pair[0], SPAN_RIGHT, pair[1], REACH, 0);
@@ -173,11 +239,11 @@ public final class TrialEdgesTest {
 
     private static void dearestStaffStays() {
         CHECKS.sentence("P22", "the staff stays, all its cells being rests");
-        // Without the melody, the inner 19 is two octaves below the bass, and left out: were it the melody, it would stay.
+        // Without the melody, the inner 19 is left out, two octaves below the bass: were it the melody, it would stay.
         CHECKS.toldIn("M302374818192743", "the melody", 0, HandSpans::dearest);
         // Without the bass, the inner 15 is two octaves below the melody: were it the bass, it would stay.
         CHECKS.toldIn("M302103919153411", "the bass", 2, HandSpans::dearest);
-        CHECKS.sentence("P22", "the staff without whose notes the sum of all costs would be smallest: the last one, too");
+        CHECKS.sentence("P22", "the sum of all costs would be smallest: the last staff, too");
         CHECKS.toldIn("M302606059592030", "the last of three staves", 2, HandSpans::dearest);
         CHECKS.toldIn("M4026060595958582030", "the last of four staves", 3, HandSpans::dearest);
         CHECKS.toldIn("M302203059596060", "the melody", 0, HandSpans::dearest);
@@ -222,7 +288,7 @@ public final class TrialEdgesTest {
         CHECKS.due("-59, as -60 is too far", -59, with("M202-590000", FINGERS, 1).bestTransposition(0));
         CHECKS.due("60", 60, with("M2026000-00", FINGERS, 1).bestTransposition(1));
         CHECKS.due("59, as 60 is too far", 59, with("M2026000-01", FINGERS, 1).bestTransposition(1));
-        CHECKS.due("-10, if no other note is in the way", -10, with("M204-40-103030--", FINGERS, 1).bestTransposition(0));
+        CHECKS.due("-10, if no note is in the way", -10, with("M204-40-103030--", FINGERS, 1).bestTransposition(0));
         CHECKS.due("-5, as a 5 is in the way", -5, with("M204-40-053030--", FINGERS, 1).bestTransposition(0));
         CHECKS.due("0, as a 0 is in the way", 0, with("M204-40-003030--", FINGERS, 1).bestTransposition(0));
         CHECKS.due("10, as a 50 is in the way", 10, with("M2046000---00-50", FINGERS, 1).bestTransposition(1));
@@ -258,8 +324,8 @@ public final class TrialEdgesTest {
     }
 
     private static void scriptOrder() {
-        CHECKS.sentence("P24", "the first command is the highest group of the number (with zeros before it, if it has "
-                + "fewer digits)");
+        CHECKS.sentence("P24", "the first command is the highest group of the number (with zeros before it, if "
+                + "it has fewer digits)");
         fails(LEAP, 2, 9000091000L, 1);
         fails(LEAP, 2, 9100090000L, 0);
         fails(LEAP, 2, 90000L, 0);
@@ -388,7 +454,8 @@ public final class TrialEdgesTest {
     // ---- promise 24, the questions
 
     private static void wholeCommands() {
-        CHECKS.sentence("P24", "7 w x y z: succeeds if the number w of the whole reduction, as told by whole(), is xyz.");
+        CHECKS.sentence("P24", "7 w x y z: succeeds if the number w of the whole reduction, as told by whole(), "
+                + "is xyz.");
         int[] want = {30, 0, 0, 0, 0, 0, 30, 3};
         for (int w = 0; w <= 9; w++) {
             for (int xyz = 0; xyz <= 999; xyz += xyz < 40 ? 1 : 53) {
@@ -405,7 +472,7 @@ public final class TrialEdgesTest {
         dear(14, 60, 70740, 0);
     }
 
-    /** With one finger a hand, both hands leap by 60 as often as it is said; then the melody moves to the last pitch. */
+    /** With one finger a hand, both hands leap by 60 as often as is said; then the melody moves to the last pitch. */
     private static void dear(int leaps, int last, int command, int at) {
         String both = "0060".repeat(8).substring(0, 2 * leaps + 2);
         String bass = both + "00".repeat(15 - leaps);
@@ -435,8 +502,8 @@ public final class TrialEdgesTest {
     }
 
     private static void reasonCommands() {
-        CHECKS.sentence("P24", "9 s b 0 r: succeeds if there is a note of staff s in beat b, and it is left out for the "
-                + "reason r, or kept if r is 0.");
+        CHECKS.sentence("P24", "9 s b 0 r: succeeds if there is a note of staff s in beat b, and it is left out "
+                + "for the reason r, or kept if r is 0.");
         for (int r = 0; r <= 99; r++) {
             fails(LEAP, 1, 90000 + r, r == 0 ? NONE : 0);
             fails(LEAP, 1, 91000 + r, 0);
@@ -452,6 +519,22 @@ public final class TrialEdgesTest {
                 fails("M20260606060", 1, 90000 + 1000 * s + 100 * b, s < 2 && b < 2 ? NONE : 0);
             }
         }
+    }
+
+    private static void looseHolds() {
+        CHECKS.sentence("ACTIONS AND UNDO", "every hold that follows a rest or is in beat 0 becomes a rest: in "
+                + "scripts, too");
+        fails("M10330==", 3, 300002004090100L, 2);
+        fails("M10330==", 3, 300002004090200L, 2);
+        fails("M10430==-", 2, 3000040300L, 1);
+        fails("M10330==", 3, 600002004090100L, 2);
+        fails("M10330==", 2, 6000040100L, 1);
+        CHECKS.sentence("ACTIONS AND UNDO", "every hold that follows a rest or is in beat 0 becomes a rest: no "
+                + "other one");
+        fails("M10330==", 2, 2004090200L, NONE);
+        fails("M10330==", 3, 301002010090200L, 2);
+        fails("M10330==", 2, 6010090100L, NONE);
+        fails("M20330==40==", 3, 300009120090200L, 2);
     }
 
     private static void otherGroups() {
@@ -531,10 +614,9 @@ public final class TrialEdgesTest {
             if (succeeds(done, group)) {
                 HandSpans asked = Scores.of(music);
                 for (int w = 0; w <= 7; w++) {
-                    int number = 70000 + 1000 * w + done.whole(w);
-                    CHECKS.due("command " + group + ", " + number, NONE, asked.runScript(2, (long) group * GROUP + number));
-                    CHECKS.due("command " + group + ", " + number + " and 1", 1,
-                            asked.runScript(2, (long) group * GROUP + number + 1));
+                    long script = (long) group * GROUP + 70000 + 1000 * w + done.whole(w);
+                    CHECKS.due("runScript(2," + script + ")", NONE, asked.runScript(2, script));
+                    CHECKS.due("runScript(2," + script + " + 1)", 1, asked.runScript(2, script + 1));
                 }
             }
         }
@@ -543,7 +625,8 @@ public final class TrialEdgesTest {
     // ---- promise 25
 
     private static void roundsRange() {
-        CHECKS.sentence("P25", "m: number of rounds, 1 to 40; Throws IllegalArgumentException if m is out of range");
+        CHECKS.sentence("P25", "m: number of rounds, 1 to 40; Throws IllegalArgumentException if m is out of "
+                + "range");
         for (int m : new int[] {0, 41, -1, LEAST, MOST}) {
             for (long seed : new long[] {0, -1, Long.MIN_VALUE, Long.MAX_VALUE}) {
                 CHECKS.refusedIn(LEAP, "simulate(" + seed + "," + m + ")", ARGUMENT, x -> x.simulate(seed, m));
@@ -592,8 +675,8 @@ public final class TrialEdgesTest {
     }
 
     private static void oneRound() {
-        CHECKS.sentence("P25", "if v is at most 60, the struck note v is written into beat b of staff s; if v is 61, a "
-                + "rest; otherwise a hold, if write() would not throw an exception");
+        CHECKS.sentence("P25", "if v is at most 60, the struck note v is written into beat b of staff s; if v is "
+                + "61, a rest; otherwise a hold, if write() would not throw an exception");
         // In each r here, r % 3 is 1: the inner one of three staves.
         CHECKS.due("a doubling", 1000, round("M301404020", rowOf(40, 0, 0)));
         CHECKS.due("left out for the reason 3", 1000, round("M301604000", rowOf(20, 2, 0)));
@@ -609,12 +692,14 @@ public final class TrialEdgesTest {
     }
 
     private static int round(String music, int r) {
-        CHECKS.due("simulate by write, r is " + r, replayed(music, seedOf(r), 1), Scores.of(music).simulate(seedOf(r), 1));
-        return Scores.of(music).simulate(seedOf(r), 1);
+        int got = Scores.of(music).simulate(seedOf(r), 1);
+        CHECKS.due(music + " by write(), r is " + r, replayed(music, seedOf(r), 1), got);
+        return got;
     }
 
     private static void allRounds() {
-        CHECKS.sentence("P25", "Let s be r % (number of staves), b be r / 4 % (number of beats), and v be r / 64 % 64");
+        CHECKS.sentence("P25", "Let s be r % (number of staves), b be r / 4 % (number of beats), and v be r / 64 "
+                + "% 64");
         String[] scores = {"M101-", "M10330=-", "M302404540=2020", "M40550==-205028==3133====10=15=-",
             "M416" + "60=12-".repeat(16)};
         for (String music : scores) {
@@ -632,9 +717,20 @@ public final class TrialEdgesTest {
         }
     }
 
+    private static void roundsWithHolds() {
+        CHECKS.sentence("P25", "holds that follow a rest then become rests in the same round, as by write()");
+        for (String music : new String[] {"M20230=40=", "M20330==40==", "M30320==23==45==", "M40230=31=32=33="}) {
+            HandSpans x = Scores.of(music);
+            for (int seed = 1; seed <= 200; seed++) {
+                int m = 1 + seed % 40;
+                CHECKS.due(music + ", simulate(" + seed + "," + m + ")", replayed(music, seed, m), x.simulate(seed, m));
+            }
+        }
+    }
+
     private static void roundsAdded() {
-        CHECKS.sentence("P25", "Returns the sum of all costs at the end, plus 1000 times the number of notes that are left "
-                + "out for any reason.");
+        CHECKS.sentence("P25", "Returns the sum of all costs at the end, plus 1000 times the number of notes "
+                + "that are left out for any reason.");
         CHECKS.due("costs alone", 30, round(LEAP, rowOf(20, 0, 0)));
         CHECKS.due("the reason 1", 1000, round("M301404020", rowOf(20, 0, 0)));
         CHECKS.due("the reason 2", 1000, round("M301402820", rowOf(20, 0, 0)));
