@@ -104,11 +104,11 @@ public final class FaceTest {
         long thread = Thread.currentThread().getId();
         long before = bean.getThreadAllocatedBytes(thread);
         long sum = 0;
-        for (int i = 0; i < 50; i++) {
+        for (int i = 0; i < 40; i++) {
             sum += x.set(5, i % 2) + x.write(i % 4, i % 16, i) + x.bestTransposition(i % 4) + x.dearest();
             sum += x.smallestSpan() + x.simulate(i, 40) + x.runScript(3, 700007100072000L) + x.save(0) + x.undo();
         }
         long bytes = bean.getThreadAllocatedBytes(thread) - before;
-        CHECKS.that("450 calls made " + bytes + " bytes of objects; " + sum, bytes < BYTES_FOR_ALL_CALLS);
+        CHECKS.that("360 calls made " + bytes + " bytes of objects; " + sum, bytes < BYTES_FOR_ALL_CALLS);
     }
 }

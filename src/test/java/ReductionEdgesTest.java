@@ -71,26 +71,30 @@ public final class ReductionEdgesTest {
     }
 
     private static void reasons(HandSpans x, int b, int... want) {
+        String seen = Scores.seen(x);
         for (int s = 0; s < want.length; s++) {
-            CHECKS.due(Scores.seen(x) + ", note(" + s + "," + b + ",1)", want[s], x.note(s, b, 1));
+            CHECKS.due(seen + ", note(" + s + "," + b + ",1)", want[s], x.note(s, b, 1));
         }
     }
 
     private static void note(HandSpans x, int s, int b, int... want) {
+        String seen = Scores.seen(x);
         for (int what = 0; what < 4; what++) {
-            CHECKS.due(Scores.seen(x) + ", note(" + s + "," + b + "," + what + ")", want[what], x.note(s, b, what));
+            CHECKS.due(seen + ", note(" + s + "," + b + "," + what + ")", want[what], x.note(s, b, what));
         }
     }
 
     private static void hand(HandSpans x, int h, int b, int... want) {
+        String seen = Scores.seen(x);
         for (int what = 0; what < 5; what++) {
-            CHECKS.due(Scores.seen(x) + ", hand(" + h + "," + b + "," + what + ")", want[what], x.hand(h, b, what));
+            CHECKS.due(seen + ", hand(" + h + "," + b + "," + what + ")", want[what], x.hand(h, b, what));
         }
     }
 
     private static void beat(HandSpans x, int b, int... want) {
+        String seen = Scores.seen(x);
         for (int what = 0; what < 5; what++) {
-            CHECKS.due(Scores.seen(x) + ", beat(" + b + "," + what + ")", want[what], x.beat(b, what));
+            CHECKS.due(seen + ", beat(" + b + "," + what + ")", want[what], x.beat(b, what));
         }
     }
 
@@ -803,8 +807,9 @@ public final class ReductionEdgesTest {
     }
 
     private static void wholes(HandSpans x, int... want) {
+        String seen = Scores.seen(x);
         for (int what = 0; what < 8; what++) {
-            CHECKS.due(Scores.seen(x) + ", whole(" + what + ")", want[what], x.whole(what));
+            CHECKS.due(seen + ", whole(" + what + ")", want[what], x.whole(what));
         }
     }
 }
