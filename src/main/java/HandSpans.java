@@ -39,6 +39,8 @@ public final class HandSpans {
 
     private static final int CUT_COSTS = 10;
     private static final int ROLL_COSTS = 5;
+    // A beat costs 170 at most: four cut ties, two rolled hands, two moves of 60.
+    private static final int ABOVE_ALL_COSTS = 1000000;
 
     // What the methods about(), note(), hand(), beat() and whole() can be asked for.
     private static final int ABOUT_STAVES = 6;
@@ -293,7 +295,7 @@ public final class HandSpans {
 
     public int dearest() {
         int best = 0;
-        int least = Integer.MAX_VALUE;
+        int least = ABOVE_ALL_COSTS;
         for (int s = 0; s < now.staves; s++) {
             trial.takeFrom(now);
             trial.silenceStaff(s);
@@ -309,7 +311,7 @@ public final class HandSpans {
     public int bestTransposition(int s) throws IndexOutOfBoundsException {
         requireStaff(s);
         int best = 0;
-        int least = Integer.MAX_VALUE;
+        int least = ABOVE_ALL_COSTS;
         for (int i = 0; i <= 2 * WIDEST_TRANSPOSITION; i++) {
             // 0, 1, -1, 2, -2 and so on: of equal sums, the first one found is the one to tell.
             int by = i % 2 == 1 ? (i + 1) / 2 : -(i / 2);
@@ -1081,7 +1083,7 @@ public final class HandSpans {
         private int bestSplit(int b, Chord before, int splitBefore) {
             Chord chord = chordAt(b);
             int best = 0;
-            int least = Integer.MAX_VALUE;
+            int least = ABOVE_ALL_COSTS;
             for (int k = 0; k < SPLITS; k++) {
                 if (chord.isPossible(k)) {
                     int costs = chord.costs(k, before, splitBefore) + ahead[b][k];
